@@ -698,6 +698,21 @@ public final class PromisesTest {
         lineIs("15: the later 5 is rubbed out", x, 2, 0, 0, 5);
         x.pass(1);
         lineIs("15: nothing new", x, 2, 0, 0, 5);
+        linesOfSeveralBooths();
+    }
+
+    private static void linesOfSeveralBooths() {
+        FeteBoard x = new FeteBoard();
+        x.pass(1);
+        for (int b = 0; b < 3; b++) {
+            x.addBooth(1, 60, 9, 1);
+            x.come(9, 3 + b);
+            helpersAt(x, b);
+        }
+        x.pass(1);
+        lineIs("15: the last play", x, 0, 2, 2, 5);
+        lineIs("15: pushed down once", x, 1, 1, 1, 4);
+        lineIs("15: pushed down twice", x, 2, 0, 0, 3);
     }
 
     private static void tiring() {
@@ -804,6 +819,18 @@ public final class PromisesTest {
         for (int what = 0; what < want.length; what++) {
             due("17: count(" + what + ")", x.count(what), want[what]);
         }
+        FeteBoard two = new FeteBoard();
+        two.addBooth(1, 0, 3, 1);
+        two.come(0, 0);
+        two.pass(1);
+        due("17: the first one is home", two.count(6), 1);
+        two.sell(0, 9);
+        two.come(9, 0);
+        two.come(9, 0);
+        helpersAt(two, 0);
+        two.pass(2);
+        due("17: the first one is in a queue", two.visitor(0, 2), 1);
+        due("17: with one more", two.count(5), 2);
         refused("17: -1", x, INDEX, () -> x.count(-1));
         refused("17: 11", x, INDEX, () -> x.count(11));
         for (int far : FAR_OFF) {
@@ -854,7 +881,46 @@ public final class PromisesTest {
                 }
             }
         }
-        due("18: nothing is changed", x.digest(), busyGreen().digest());
+        due("18: nothing is changed", x.digest() == busyGreen().digest() ? 1 : 0, 1);
+        foreseeFromTheBoard();
+        foreseeOneAtHome();
+    }
+
+    private static void foreseeFromTheBoard() {
+        FeteBoard x = new FeteBoard();
+        x.pass(1);
+        x.addBooth(1, 60, 9, 1);
+        x.come(1, 5);
+        x.come(1, 6);
+        x.come(2, 3);
+        x.come(2, 4);
+        helpersAt(x, 0);
+        x.pass(4);
+        x.work(0, -1);
+        int[] marks = {2, 3, 0, 1};
+        for (int v = 0; v < 4; v++) {
+            due("18: marks of what stands on the board", x.foresee(v, 7, 2), marks[v]);
+            due("18: not yet", x.foresee(v, 6, 2), 0);
+        }
+        due("18: 5 tokens for the first", x.foresee(1, 7, 1), 5);
+        x.work(0, 0);
+        int[] marksBesideTheNext = {0, 2, 1, 3};
+        for (int v = 0; v < 4; v++) {
+            due("18: the next two plays, 6 and 7, beside 6 and 5", x.foresee(v, 7, 2), marksBesideTheNext[v]);
+        }
+    }
+
+    private static void foreseeOneAtHome() {
+        FeteBoard x = new FeteBoard();
+        x.pass(1);
+        x.addBooth(1, 0, 9, 1);
+        x.come(1, 5);
+        helpersAt(x, 0);
+        x.pass(11);
+        due("18: went home, and got 5 tokens", x.visitor(0, 0), 5);
+        due("18: plays no more", x.foresee(0, 3, 0), 1);
+        x.sell(0, 1);
+        due("18: strolls again", x.foresee(0, 3, 0), 4);
     }
 
     // ---- promise 19
@@ -984,6 +1050,43 @@ public final class PromisesTest {
             due("22: in round " + x.count(0), x.digest() == toldDigest(x) ? 1 : 0, 1);
             x.pass(1);
         }
+        fullGreen();
+    }
+
+    /** All that there can be: no row's end is overrun. */
+    private static void fullGreen() {
+        FeteBoard x = new FeteBoard();
+        for (int b = 0; b < 8; b++) {
+            x.addBooth(1 + b % 2, 7 * b, 99, 1);
+        }
+        for (int h = 0; h < 12; h++) {
+            helpersAt(x, h % 3);
+        }
+        for (int v = 0; v < 16; v++) {
+            x.come(200, 2 * v);
+        }
+        for (int hour = 0; hour < 4; hour++) {
+            for (int h = 0; h < 12; h++) {
+                x.work(h, (h + hour) % 8);
+                due("22: a full green is told", x.digest() == toldDigest(x) ? 1 : 0, 1);
+                int best = x.advise(h, 3);
+                due("20: a booth, or none", best >= -1 && best < 8 ? 1 : 0, 1);
+            }
+            int will = x.foresee(15, 12, 0);
+            int closes = x.closes(7);
+            x.pass(12);
+            due("18: on a full green", will, x.visitor(15, 4));
+            due("19: on a full green", closes > 12 ? 1 : 0, x.booth(7, 5));
+            due("21: on a full green", x.luck(), x.count(8) / (double) playsOf(x));
+        }
+    }
+
+    private static int playsOf(FeteBoard x) {
+        int plays = 0;
+        for (int v = 0; v < x.count(3); v++) {
+            plays += x.visitor(v, 6);
+        }
+        return plays;
     }
 
     private static long toldDigest(FeteBoard x) {
